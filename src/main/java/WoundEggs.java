@@ -854,7 +854,6 @@ public final class WoundEggs {
 
         void empty() {
             length = 0;
-            at = 0;
         }
 
         /** The sign that comes; -1: none. */
@@ -1080,7 +1079,6 @@ public final class WoundEggs {
         private int number = 0;
 
         int perform(int[] row, int egg, int act, int x) {
-            ran = 0;
             kind = row[KIND];
             v = row[V];
             number = egg;

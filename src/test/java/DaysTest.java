@@ -113,6 +113,11 @@ public final class DaysTest {
         Due.is("together(3, 0)", x.together(3, 0), 10);
         Due.is("together(3, 1)", x.together(3, 1), 12);
         Due.is("together(1, 0)", x.together(1, 0), 2);
+        x.set(0, 1, 4);
+        x.set(1, 1, 0);
+        Due.is("together(3, 0), REST 0", x.together(3, 0), 0);
+        x.set(0, 1, 2);
+        x.set(1, 1, 4);
         Due.is("together(1, 1)", x.together(1, 1), 4);
         Due.is("together(5, 0)", x.together(5, 0), -5);
         Due.is("together(5, 1)", x.together(5, 1), -5);
@@ -154,7 +159,19 @@ public final class DaysTest {
         x.egg(0, 0, 2, 1);
         x.egg(0, 0, 3, 1);
         x.egg(0, 0, 5, 1);
-        x.pass(2);
+        Due.is("busy(1, 1), day 0", x.busy(1, 1), 0);
+        x.set(1, 1, 0);
+        Due.is("busy(1, 1), one on day 0", x.busy(1, 1), 1);
+        Due.is("busy(1, 2), one on day 0", x.busy(1, 2), 1);
+        Due.is("busy(3, 0), two on day 1", x.busy(3, 0), 1);
+        x.set(1, 1, 1);
+        x.smash(1, true);
+        Due.is("busy(1, 1), BROKEN", x.busy(1, 1), 0);
+        x.smash(1, false);
+        x.pass(1);
+        Due.is("busy(5, 0), on this DAY", x.busy(5, 0), 0);
+        Due.is("busy(5, 1), on this DAY", x.busy(5, 1), 3);
+        x.pass(1);
         Due.is("busy(1, 0)", x.busy(1, 0), 0);
         Due.is("busy(1, 1)", x.busy(1, 1), 0);
         Due.is("busy(5, 0)", x.busy(5, 0), 1);
@@ -167,6 +184,14 @@ public final class DaysTest {
         Due.is("busy(1, 2)", x.busy(1, 2), 0);
         Due.is("busy(2, 2)", x.busy(2, 2), 8);
         Due.is("busy(6, 2)", x.busy(6, 2), 1 + 8 + 16 + 32 + 64);
+        x.smash(0, true);
+        x.smash(1, true);
+        // Days 6, 11, .. 61.
+        Due.is("busy(5, 2)", x.busy(5, 2), 64);
+        Due.is("busy(40, 2), 6 and 41 alike", x.busy(40, 2), 127);
+        x.set(2, 0, 7);
+        x.set(2, 1, 3);
+        Due.is("busy(14, 2), two on day 3 of the week", x.busy(14, 2), 8);
         Due.is("busy(1, 3)", x.busy(1, 3), -1);
         Due.is("busy(0, -1)", x.busy(0, -1), -1);
         Due.is("busy(0, 0)", x.busy(0, 0), -2);

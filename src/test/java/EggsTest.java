@@ -12,6 +12,7 @@ public final class EggsTest {
         feeding();
         storing();
         faults();
+        manyFaults();
         tests();
         allAndSums();
         telling();
@@ -203,6 +204,7 @@ public final class EggsTest {
         Due.is("a fault", Due.store(x, "all x"), -14);
         Due.is("the one that held holds", x.told(1), 5);
         Due.is("STORES", x.count(1), 5);
+        Due.is("a fault behind clauses", Due.store(x, "late 9 p=0;all 8;x"), -27);
         Due.is("the sixth", Due.store(x, "all 29"), 5);
         Due.is("a seventh", Due.store(x, "all 9"), -4);
         Due.is("THE TEXT stays", x.count(5), 5);
@@ -253,6 +255,10 @@ public final class EggsTest {
         fault("all 1 p=1", 5);
         fault("all 123", 6);
         fault("all 1;", 6);
+        fault("all 1\0", 5);
+        fault("all \0001", 4);
+        fault("late 1 p=1\0", 10);
+        fault("\0", 0);
         fault("alla 1", 3);
         fault("early 12 v>1;earle", 17);
         fault("all 1;all 2;all 3;all 4;all 5;all 6;all 7;all 8;all 9;all 10;", 60);
@@ -262,6 +268,18 @@ public final class EggsTest {
         fault("early 1 !(!(p=1))", -10);
         fault("early 1 !p=1&!p=1&!p=1&!p=1&!p=1", -10);
         fault("late 00 ((((p=00))))|!b>99", -10);
+    }
+
+    /** What was read of texts that are none is forgotten. */
+    private static void manyFaults() {
+        WoundEggs x = new WoundEggs();
+        x.egg(0, 0, 30, 0);
+        for (int i = 0; i < 4; i++) {
+            Due.is("a fault", Due.store(x, "all 9;late 9 " + "p=0|".repeat(21)), -10 - 97);
+        }
+        Due.is("ALL", x.told(1), 0);
+        Due.is("a STORE", Due.store(x, "late 3 p=1;early 1 p=0"), 0);
+        Due.is("REST", x.of(0, 8), 29);
     }
 
     /** Whether an E holds for EGG 1, a SLOW one with v 4, PERIOD 6, SETTING 9, BROKEN. */
@@ -321,8 +339,12 @@ public final class EggsTest {
         Due.is("REST", x.of(0, 8), 1);
         x.smash(0, true);
         Due.is("REST of one now BROKEN", x.of(0, 8), 6);
+        Due.is("a fault behind all", Due.store(x, "all 5;late 3 p=0;all"), -30);
+        Due.is("a store with neither", Due.store(x, "late 0 p=0"), 2);
+        Due.is("its ALL", x.told(1), 0);
+        Due.is("REST", x.of(0, 8), 1);
         Due.is("ten clauses", Due.store(x, "late 1 p=0;late 1 p=0;late 1 p=0;late 1 p=0;late 1 p=0;"
-            + "late 1 p=0;all 3;late 1 p=0;late 9 p=0;all 4"), 2);
+            + "late 1 p=0;all 3;late 1 p=0;late 9 p=0;all 4"), 3);
         Due.is("REST by ten clauses", x.of(0, 8), 21);
     }
 
@@ -340,11 +362,16 @@ public final class EggsTest {
         Due.is("told(4) on day 5", x.told(4), 2);
         Due.is("told(5)", x.told(5), 6);
         Due.is("told(6)", x.told(6), 6);
+        x.listen(127);
+        x.pass(2);
+        Due.is("told(5), three more", x.told(5), 9);
+        Due.is("told(6), none more", x.told(6), 6);
+        Due.is("undo, no image", x.undo(), -3);
         Due.is("told(7)", x.told(7), -1);
         Due.is("told(-1)", x.told(-1), -1);
         x.egg(0, 0, 1, 0);
         Due.is("never quiet", x.told(4), -5);
         x.smash(3, true);
-        Due.is("quiet, one BROKEN", x.told(4), 2);
+        Due.is("quiet, one BROKEN", x.told(4), 0);
     }
 }

@@ -39,6 +39,8 @@ public final class TapesTest {
             x.tape(3, sort, 9);
             Due.is("sort " + sort, x.judge(3, 0), sort == 3 ? -5 : -12);
         }
+        x.tape(5, 3, 3);
+        Due.is("the last TAPE", x.judge(5, 0), -5);
         x.pass(6);
         x.item(0, 1, 6);
         Due.is("the first otherwise", x.judge(0, 0), 0);
@@ -262,6 +264,8 @@ public final class TapesTest {
         Due.is("nothing", x.tape(0, -1, 61), 1);
         Due.is("nothing", x.item(0, 0, 7), -11);
         Due.is("a TAPE unlike another", x.tape(5, 2, 3), 1);
+        Due.is("the last TAPE's item", x.item(5, 1, 8), 1);
+        Due.is("the last TAPE's item", x.read(5, 1), 8);
         Due.is("a TAPE unlike another", x.item(4, 0, 3), -11);
     }
 
@@ -328,5 +332,15 @@ public final class TapesTest {
         row(x, 0, 1, 2, 3, 4, 4);
         Due.is("all of it", x.shift(0, 0, 0, 0, 5), 5);
         row(x, 0, 1, 2, 3, 4, 4);
+        for (int sort = 0; sort <= 4; sort++) {
+            x.tape(4, sort, 2);
+            x.tape(5, sort, 2);
+            x.item(5, 0, 1);
+            Due.is("of sort " + sort, x.shift(5, 0, 4, 1, 1), 1);
+            row(x, 4, 0, 1);
+            row(x, 5, 1, 0);
+            Due.is("of sort " + sort, x.shift(4, 0, 5, 0, 1), 1);
+            row(x, 5, 0, 0);
+        }
     }
 }
